@@ -120,7 +120,7 @@ public final class BellRope {
         }
         switch (what) {
             case 0: return Rows.at(house.mustBe, g);
-            case 1: return Rows.at(house.takesWay, g);
+            case 1: return Rows.at(house.walks, g);
             default: return OUTSIDE;
         }
     }
@@ -641,7 +641,7 @@ public final class BellRope {
         int set = 0;
         for (int g = 0; g < house.goers; g++) {
             int due = (Rows.at(house.mustBe, g) + DAY - now.gone % DAY) % DAY;
-            if (start == NONE || start + Rows.at(house.takesWay, g) > due) {
+            if (start == NONE || start + Rows.at(house.walks, g) > due) {
                 set |= 1 << g;
             }
         }
@@ -728,7 +728,7 @@ public final class BellRope {
         final int[] bears = new int[MOST_DRINKERS];
         final int[] hundredths = new int[MOST_DRINKERS];
         final int[] mustBe = new int[MOST_GOERS];
-        final int[] takesWay = new int[MOST_GOERS];
+        final int[] walks = new int[MOST_GOERS];
         final int[] signs = new int[MOST_SIGNALS];
         final int[] blanket = new int[DAY];
         boolean open;
@@ -867,7 +867,7 @@ public final class BellRope {
         private void readGoer(Inn into) {
             startClause(into.goers >= MOST_GOERS);
             Rows.put(into.mustBe, into.goers, readNumber(0, DAY - 1));
-            Rows.put(into.takesWay, into.goers, readNumber(0, 40));
+            Rows.put(into.walks, into.goers, readNumber(0, 40));
             endClause();
             into.goers++;
         }

@@ -147,7 +147,7 @@ public final class InnTest {
         x.was(3, 2);
         x.write(0, 3);
         x.turn(0, 3);
-        x.hang(5);
+        x.hang(50);
         x.rain(1);
         x.quarter(6);
         x.keep(0);
@@ -174,6 +174,25 @@ public final class InnTest {
         Checks.due("quarter(1) without an inn", x.quarter(1), BellRope.NOT);
         Checks.due("come(0) without an inn", x.come(0), BellRope.UNKNOWN);
         sextonsAnew();
+        thirdInn();
+    }
+
+    /** Nothing of an inn may come back with one that is told much later. */
+    private static void thirdInn() {
+        String whole = "b1 9 127;d1 9 9;s0 24;s24 24;s48 24;s72 24;" + "g5 5;".repeat(6) + "n1;n2;n3;n4;n5;";
+        BellRope x = Checks.open(whole);
+        for (int i = 0; i < 3; i++) {
+            Checks.due("inn() of the whole again", Checks.tell(x, whole), 1);
+        }
+        Checks.due("inn() of nothing", x.inn(), 0);
+        Checks.due("inn() of nothing again", x.inn(), 0);
+        Checks.row("told(0 .. 4), (9)", new int[] {x.told(0), x.told(1), x.told(2), x.told(3), x.told(4), x.told(9)}, 0, 0, 0, 0, 0, 0);
+        Checks.due("inn() of the whole", Checks.tell(x, whole), 1);
+        Checks.due("inn() of the whole", Checks.tell(x, whole), 1);
+        Checks.due("inn() of one drinker", Checks.tell(x, "b0 9 0;d1 9 9;"), 1);
+        x.come(0);
+        Checks.row("told(0 .. 4), (9)", new int[] {x.told(0), x.told(1), x.told(2), x.told(3), x.told(4), x.told(9)}, 0, 9, 1, 0, 0, 0);
+        Checks.row("quarter(1), goer(0, 0), signal(0)", new int[] {x.quarter(1), x.goer(0, 0), x.signal(0)}, 1, BellRope.UNKNOWN, BellRope.UNKNOWN);
     }
 
     private static void sextonsAnew() {

@@ -326,6 +326,10 @@ public final class TriedTest {
         BellRope zero = Checks.open("b0 0 0;d2 20 0;", 0);
         zero.quarter(6);
         Checks.due("widows(7), none between", zero.widows(7), 21);
+        BellRope full = Checks.open("b0 0 0;d4 20 0;", 0);
+        full.quarter(45);
+        // THE LOG has 5 .. 44: 8, 12 .. 44
+        Checks.due("widows(1) of a full log", full.widows(1), 10);
     }
 
     private static void promise31() {
@@ -349,6 +353,8 @@ public final class TriedTest {
         Checks.due("odds(-1)", x.odds(-1), OUTSIDE);
         Checks.due("odds(17) without an inn", new BellRope().odds(17), OUTSIDE);
         Checks.due("odds(0) without an inn", new BellRope().odds(0), NOT);
+        BellRope seven = Checks.open("b0 0 0;" + "d1 1 100;".repeat(6) + "d1 1 40;", 0, 1, 2, 3, 4, 5, 6);
+        Checks.row("odds(6), (7), (8) of seven", new int[] {seven.odds(6), seven.odds(7), seven.odds(8)}, 1000000, 400000, 0);
         BellRope cut = Checks.open("b0 0 0;d1 1 1;d1 1 1;d1 1 1;d1 1 1;", 0, 1, 2, 3);
         // at 1, 2, 3, 4: 10000; 9900 + 9900 = 19800, 100; 29403, 297, 1; 38811 (cut), 588 (cut), 3 (cut), 0
         Checks.row("odds(2), (3), (4)", new int[] {cut.odds(2), cut.odds(3), cut.odds(4)}, 297 - 2 + 294 + 1 + 2, 3, 0);
@@ -368,6 +374,10 @@ public final class TriedTest {
         x.treat(1, 9);
         x.treat(2, 9);
         Checks.due("most(), none has any", x.most(), -1);
+        x.come(0);
+        x.come(3);
+        x.quarter(1);
+        Checks.due("most(), one pint each", x.most(), 0);
         Checks.due("most() without an inn", new BellRope().most(), -1);
     }
 
@@ -418,6 +428,11 @@ public final class TriedTest {
         x.go(2);
         x.go(3);
         Checks.due("share(0), nobody IN", x.share(0), 0);
+        BellRope first = Checks.open("b0 0 0;d1 5 0;d1 2 0;", 0, 1);
+        first.quarter(5);
+        Checks.row("share of 7, one more for 0", new int[] {first.share(0), first.share(1)}, 4, 3);
+        first.go(1);
+        Checks.due("share of 7 of one", first.share(0), 7);
         Checks.due("share(4)", x.share(4), UNKNOWN);
         Checks.due("share(-1)", x.share(-1), UNKNOWN);
         Checks.due("share(0) without an inn", new BellRope().share(0), UNKNOWN);
