@@ -147,9 +147,10 @@ public final class InnTest {
         x.was(3, 2);
         x.write(0, 3);
         x.turn(0, 3);
+        x.quarter(1);
         x.hang(50);
         x.rain(1);
-        x.quarter(6);
+        x.quarter(5);
         x.keep(0);
         x.quarter(1);
         Checks.due("inn() with a fault", Checks.tell(x, "b0 0 0;d"), -11);
@@ -175,6 +176,22 @@ public final class InnTest {
         Checks.due("come(0) without an inn", x.come(0), BellRope.UNKNOWN);
         sextonsAnew();
         thirdInn();
+        shorterTexts();
+    }
+
+    /** What stood behind THE TEXT once is not of it. */
+    private static void shorterTexts() {
+        String[] shorter = {"b0 0 1;", "b0 0 1", "b0 0 12;", "b0 0 1", "b0 0 ", "b0  ", "b", " ", "", "b0 0 0;n2", "b0 0 0;n1 ; ", "b0 0 0;n1"};
+        int[] answers = {0, -11, 0, -11, -11, -11, -11, 0, 0, -11, 0, -11};
+        int[] places = {-1, 6, -1, 6, 5, 4, 1, -1, -1, 9, -1, 9};
+        BellRope x = new BellRope();
+        for (int i = 0; i < shorter.length; i++) {
+            Checks.due("inn() of \"" + shorter[i] + "\" behind others", Checks.tell(x, shorter[i]), answers[i]);
+            Checks.due("fault() of \"" + shorter[i] + "\" behind others", x.fault(), places[i]);
+        }
+        Checks.tell(x, "b0 0 12;");
+        Checks.tell(x, "b0 0 1");
+        Checks.due("fault() where a figure stood", x.fault(), 6);
     }
 
     /** Nothing of an inn may come back with one that is told much later. */

@@ -164,6 +164,8 @@ public final class TriedTest {
         // from 1 on: HEARD 1, 2, 1 ..; due 95, 0, 1; by 1: there at 0, 1, 9; by 2: 1, 2, 10
         Checks.row("best(0), (1)", new int[] {x.best(0), x.best(1)}, 1, 2);
         Checks.row("best of nobody", new int[] {Checks.open("b0 0 0;d1 20 0;g1 1;").best(0), Checks.open("b0 0 0;d1 20 0;g1 1;g2 2;").best(1)}, 1, 2);
+        BellRope six = Checks.open("b0 0 0;" + "g1 1;".repeat(6));
+        Checks.row("best of six who never set out", new int[] {six.best(0), six.best(1)}, 1, 6);
         Checks.row("best without GOERS", new int[] {Checks.open("b0 0 0;").best(0), Checks.open("b0 0 0;").best(1)}, 1, 0);
         Checks.due("best(2)", x.best(2), OUTSIDE);
         Checks.due("best(-1)", x.best(-1), OUTSIDE);
