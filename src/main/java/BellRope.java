@@ -205,11 +205,9 @@ public final class BellRope {
     }
 
     public int hang(int n) {
-        if (n < 0 || n > DAY) {
-            return OUTSIDE;
-        }
-        if (!house.open) {
-            return NOT;
+        int refusal = refused(n < 0 || n > DAY);
+        if (refusal != 0) {
+            return refusal;
         }
         past.note(now);
         int old = now.hung;
@@ -218,11 +216,9 @@ public final class BellRope {
     }
 
     public int rain(int r) {
-        if (r < 0 || r > 2) {
-            return OUTSIDE;
-        }
-        if (!house.open) {
-            return NOT;
+        int refusal = refused(r < 0 || r > 2);
+        if (refusal != 0) {
+            return refusal;
         }
         past.note(now);
         int old = now.weather;
@@ -251,33 +247,27 @@ public final class BellRope {
     // ---- tried
 
     public int strikes(int n) {
-        if (n < 0 || n >= TWO_DAYS) {
-            return OUTSIDE;
-        }
-        if (!house.open) {
-            return NOT;
+        int refusal = refused(n < 0 || n >= TWO_DAYS);
+        if (refusal != 0) {
+            return refusal;
         }
         trial.run(house, now, n + 1);
         return Rows.at(trial.heards, n);
     }
 
     public int when(int k) {
-        if (k < 1 || k > MOST_STROKES) {
-            return OUTSIDE;
-        }
-        if (!house.open) {
-            return NOT;
+        int refusal = refused(k < 1 || k > MOST_STROKES);
+        if (refusal != 0) {
+            return refusal;
         }
         trial.run(house, now, TWO_DAYS);
         return trial.firstHeard(k, TWO_DAYS);
     }
 
     public int hour(int n) {
-        if (n < 0 || n > TWO_DAYS) {
-            return OUTSIDE;
-        }
-        if (!house.open) {
-            return NOT;
+        int refusal = refused(n < 0 || n > TWO_DAYS);
+        if (refusal != 0) {
+            return refusal;
         }
         trial.run(house, now, n);
         return trial.evening.bell;
@@ -301,22 +291,18 @@ public final class BellRope {
     }
 
     public int late(int k) {
-        if (k < 1 || k > MOST_STROKES) {
-            return OUTSIDE;
-        }
-        if (!house.open) {
-            return NOT;
+        int refusal = refused(k < 1 || k > MOST_STROKES);
+        if (refusal != 0) {
+            return refusal;
         }
         trial.run(house, now, DAY);
         return lateBy(k);
     }
 
     public int best(int what) {
-        if (what < 0 || what > 1) {
-            return OUTSIDE;
-        }
-        if (!house.open) {
-            return NOT;
+        int refusal = refused(what < 0 || what > 1);
+        if (refusal != 0) {
+            return refusal;
         }
         trial.run(house, now, DAY);
         int bestK = 1;
@@ -346,11 +332,9 @@ public final class BellRope {
     }
 
     public int given(int n) {
-        if (n < 1 || n > TWO_DAYS) {
-            return OUTSIDE;
-        }
-        if (!house.open) {
-            return NOT;
+        int refusal = refused(n < 1 || n > TWO_DAYS);
+        if (refusal != 0) {
+            return refusal;
         }
         trial.run(house, now, n);
         int set = 0;
@@ -372,11 +356,9 @@ public final class BellRope {
     }
 
     public int vespers(int k, int what) {
-        if (k < 1 || k > MOST_STROKES || what < 0 || what > 1) {
-            return OUTSIDE;
-        }
-        if (!house.open) {
-            return NOT;
+        int refusal = refused(k < 1 || k > MOST_STROKES || what < 0 || what > 1);
+        if (refusal != 0) {
+            return refusal;
         }
         int due = now.due(house, now.gone);
         int full = now.full(house);
@@ -395,11 +377,9 @@ public final class BellRope {
     }
 
     public int ship(int m) {
-        if (m < 1 || m > 99) {
-            return OUTSIDE;
-        }
-        if (!house.open) {
-            return NOT;
+        int refusal = refused(m < 1 || m > 99);
+        if (refusal != 0) {
+            return refusal;
         }
         trial.run(house, now, TWO_DAYS);
         int miles = m;
@@ -432,11 +412,9 @@ public final class BellRope {
     }
 
     public int odds(int k) {
-        if (k < 0 || k > MOST_STROKES) {
-            return OUTSIDE;
-        }
-        if (!house.open) {
-            return NOT;
+        int refusal = refused(k < 0 || k > MOST_STROKES);
+        if (refusal != 0) {
+            return refusal;
         }
         chances.restart();
         int thirsty = now.thirsty(house);
@@ -486,21 +464,17 @@ public final class BellRope {
     // ---- what was heard
 
     public int was(int quarter, int heard) {
-        if (quarter < 0 || quarter >= DAY || heard < 0 || heard > MOST_STROKES) {
-            return OUTSIDE;
-        }
-        if (!house.open) {
-            return NOT;
+        int refusal = refused(quarter < 0 || quarter >= DAY || heard < 0 || heard > MOST_STROKES);
+        if (refusal != 0) {
+            return refusal;
         }
         return known.append(quarter, heard) ? known.many : FULL;
     }
 
     public int could(int what) {
-        if (what < 0 || what > 3) {
-            return OUTSIDE;
-        }
-        if (!house.open) {
-            return NOT;
+        int refusal = refused(what < 0 || what > 3);
+        if (refusal != 0) {
+            return refusal;
         }
         known.findSets(house, now);
         switch (what) {
@@ -603,13 +577,19 @@ public final class BellRope {
         return set >> place & 1;
     }
 
-    /** 0, or why n QUARTERS can't go by. */
-    private int refusedQuarters(int n) {
-        if (n < 1 || n > DAY) {
+    /** 0, or why it can't be: a number is OUTSIDE, or there is no INN. */
+    private int refused(boolean outside) {
+        if (outside) {
             return OUTSIDE;
         }
-        if (!house.open) {
-            return NOT;
+        return house.open ? 0 : NOT;
+    }
+
+    /** 0, or why n QUARTERS can't go by. */
+    private int refusedQuarters(int n) {
+        int refusal = refused(n < 1 || n > DAY);
+        if (refusal != 0) {
+            return refusal;
         }
         return now.gone > LAST_QUARTER ? FULL : 0;
     }
