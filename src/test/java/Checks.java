@@ -58,6 +58,15 @@ final class Checks {
         return x;
     }
 
+    /** HEARD, quarter by quarter. */
+    static int[] heard(BellRope x, int n) {
+        int[] row = new int[n];
+        for (int i = 0; i < n; i++) {
+            row[i] = x.quarter(1);
+        }
+        return row;
+    }
+
     static int wrong() {
         return wrong;
     }

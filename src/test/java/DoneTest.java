@@ -16,24 +16,15 @@ public final class DoneTest {
         Checks.end();
     }
 
-    /** HEARD, quarter by quarter. */
-    private static int[] heard(BellRope x, int n) {
-        int[] row = new int[n];
-        for (int i = 0; i < n; i++) {
-            row[i] = x.quarter(1);
-        }
-        return row;
-    }
-
     private static void promise10Strokes() {
         Checks.part("promise 10");
-        Checks.row("DRY", heard(Checks.open("b0 9 0;d1 20 0;d2 20 0;d3 20 0;", 0, 1, 2), 7), 3, 1, 2, 2, 2, 1, 3);
-        Checks.row("with the ECHO", heard(Checks.open("b1 9 0;d1 20 0;d2 20 0;d3 20 0;", 0, 1, 2), 7), 4, 2, 3, 3, 3, 2, 4);
-        Checks.row("WET", heard(Checks.open("b0 9 1;d1 20 0;d2 20 0;d3 20 0;", 0, 1, 2), 7), 1, 0, 1, 1, 1, 0, 1);
-        Checks.row("WET with the ECHO", heard(Checks.open("b1 9 1;d1 20 0;d2 20 0;d3 20 0;", 0, 1, 2), 7), 2, 0, 2, 2, 2, 0, 2);
-        Checks.row("who is not IN does not ring", heard(Checks.open("b0 9 0;d1 20 0;d2 20 0;d3 20 0;", 1), 4), 1, 0, 1, 0);
-        Checks.row("nobody", heard(Checks.open("b1 9 0;d1 20 0;"), 3), 0, 0, 0);
-        Checks.row("one bears 2", heard(Checks.open("b0 9 0;d1 2 0;d1 20 0;", 0, 1), 4), 2, 2, 1, 1);
+        Checks.row("DRY", Checks.heard(Checks.open("b0 9 0;d1 20 0;d2 20 0;d3 20 0;", 0, 1, 2), 7), 3, 1, 2, 2, 2, 1, 3);
+        Checks.row("with the ECHO", Checks.heard(Checks.open("b1 9 0;d1 20 0;d2 20 0;d3 20 0;", 0, 1, 2), 7), 4, 2, 3, 3, 3, 2, 4);
+        Checks.row("WET", Checks.heard(Checks.open("b0 9 1;d1 20 0;d2 20 0;d3 20 0;", 0, 1, 2), 7), 1, 0, 1, 1, 1, 0, 1);
+        Checks.row("WET with the ECHO", Checks.heard(Checks.open("b1 9 1;d1 20 0;d2 20 0;d3 20 0;", 0, 1, 2), 7), 2, 0, 2, 2, 2, 0, 2);
+        Checks.row("who is not IN does not ring", Checks.heard(Checks.open("b0 9 0;d1 20 0;d2 20 0;d3 20 0;", 1), 4), 1, 0, 1, 0);
+        Checks.row("nobody", Checks.heard(Checks.open("b1 9 0;d1 20 0;"), 3), 0, 0, 0);
+        Checks.row("one bears 2", Checks.heard(Checks.open("b0 9 0;d1 2 0;d1 20 0;", 0, 1), 4), 2, 2, 1, 1);
         BellRope x = Checks.open("b0 0 0;d3 20 0;d1 2 0;", 0, 1);
         Checks.due("quarter(4) is the latest", x.quarter(4), 1);
         Checks.row("PINTS, PAID, hour, QUARTERS",
@@ -41,10 +32,10 @@ public final class DoneTest {
     }
 
     private static void promise10Blanket() {
-        Checks.row("SEXTON", heard(Checks.open("b1 2 0;d1 20 0;d2 20 0;d2 20 0;s1 3;", 0, 1, 2), 6), 4, 0, 2, 0, 4, 2);
-        Checks.row("two SEXTONS overlap", heard(Checks.open("b1 2 0;d1 20 0;d2 20 0;d2 20 0;s0 2;s1 2;", 0, 1, 2), 4), 2, 0, 2, 2);
-        Checks.row("WET, then the BLANKET", heard(Checks.open("b1 1 1;d1 20 0;d1 20 0;d1 20 0;d2 20 0;s0 2;", 0, 1, 2, 3), 4), 2, 0, 3, 2);
-        Checks.row("K 0", heard(Checks.open("b0 0 0;d1 20 0;s0 2;", 0), 3), 1, 1, 1);
+        Checks.row("SEXTON", Checks.heard(Checks.open("b1 2 0;d1 20 0;d2 20 0;d2 20 0;s1 3;", 0, 1, 2), 6), 4, 0, 2, 0, 4, 2);
+        Checks.row("two SEXTONS overlap", Checks.heard(Checks.open("b1 2 0;d1 20 0;d2 20 0;d2 20 0;s0 2;s1 2;", 0, 1, 2), 4), 2, 0, 2, 2);
+        Checks.row("WET, then the BLANKET", Checks.heard(Checks.open("b1 1 1;d1 20 0;d1 20 0;d1 20 0;d2 20 0;s0 2;", 0, 1, 2, 3), 4), 2, 0, 3, 2);
+        Checks.row("K 0", Checks.heard(Checks.open("b0 0 0;d1 20 0;s0 2;", 0), 3), 1, 1, 1);
         BellRope x = Checks.open("b0 1 0;d24 20 0;s95 1;s24 24;", 0);
         x.turn(0, 1);
         x.quarter(95);
@@ -151,7 +142,7 @@ public final class DoneTest {
         Checks.due("turn(2, 40)", x.turn(2, 40), BellRope.UNKNOWN);
         Checks.due("turn(-1, 0)", x.turn(-1, 0), BellRope.UNKNOWN);
         Checks.due("turn(1, 39)", x.turn(1, 39), 0);
-        Checks.row("HEARD", heard(x, 6), 0, 2, 0, 0, 0, 1);
+        Checks.row("HEARD", Checks.heard(x, 6), 0, 2, 0, 0, 0, 1);
         Checks.due("drinker(0, 5)", x.drinker(0, 5), 39);
     }
 
@@ -160,9 +151,9 @@ public final class DoneTest {
         BellRope x = Checks.open("b0 1 0;d1 20 0;", 0);
         Checks.due("hang(2)", x.hang(2), 0);
         Checks.due("hang(3)", x.hang(3), 2);
-        Checks.row("HEARD", heard(x, 2), 0, 0);
+        Checks.row("HEARD", Checks.heard(x, 2), 0, 0);
         Checks.due("told(10)", x.told(10), 1);
-        Checks.row("HEARD", heard(x, 2), 0, 1);
+        Checks.row("HEARD", Checks.heard(x, 2), 0, 1);
         Checks.due("told(10)", x.told(10), 0);
         Checks.due("hang(96)", x.hang(96), 0);
         Checks.due("hang(0)", x.hang(0), 96);
