@@ -1077,12 +1077,13 @@ public final class BellRope {
             return i >= 0 && i < evenings.length ? evenings[i] : null;
         }
 
+        /** The oldest goes behind all others, to be used again. */
         private void loseOldest() {
-            Evening oldest = evening(0);
             for (int i = 1; i < evenings.length; i++) {
+                Evening oldest = evenings[i - 1];
                 evenings[i - 1] = evenings[i];
+                evenings[i] = oldest;
             }
-            evenings[evenings.length - 1] = oldest;
             many--;
         }
     }
